@@ -135,9 +135,9 @@ public final class PromisesTest {
         x.step(3);
         x.crash(1);
         due.is("canal", x.canal(4), 0);
-        due.is("link", x.link(0, 1), 1);
-        due.is("link", x.link(1, 2), 2);
-        due.is("link", x.link(2, 3), 3);
+        due.is("link", x.link(1, 0), 1);
+        due.is("link", x.link(0, 2), 2);
+        due.is("link", x.link(0, 3), 3);
         due.is("open", x.open(3, FAIR, 1), 0);
         due.is("copies", x.count(2), 0);
         due.is("pumps", x.count(3), NONE);
@@ -147,9 +147,13 @@ public final class PromisesTest {
                 due.is("told(" + s + ", " + which + ")", x.told(s, which), 0);
             }
         }
-        due.is("want(0, 1)", x.want(0, 1), 1);
-        due.is("step(0)", x.step(0), 2);
+        x.want(3, 0);
+        pump(x, 3);
+        due.is("2 has not wanted since", x.told(2, 6), 0);
+        due.is("want(2, 1)", x.want(2, 1), 1);
+        due.is("step(2)", x.step(2), 2);
         due.is("numbers begin at 0", x.letter(0, 3), 0);
+        due.is("to", x.letter(0, 2), 0);
         due.is("taken", x.deliver(0), 1);
     }
 
