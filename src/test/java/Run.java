@@ -60,7 +60,7 @@ final class Run {
         }
     }
 
-    private static int number(String word) {
+    static int number(String word) {
         return NAMES.containsKey(word) ? NAMES.get(word) : Integer.parseInt(word);
     }
 
@@ -166,7 +166,7 @@ final class Run {
         }
     }
 
-    private static int answerOf(PumpHouse x, String call, int[] n) {
+    static int answerOf(PumpHouse x, String call, int[] n) {
         return switch (call) {
             case "canal" -> x.canal(n[0]);
             case "link" -> x.link(n[0], n[1]);
